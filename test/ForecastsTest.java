@@ -5,6 +5,8 @@ public final class ForecastsTest {
     public static void main(String[] args) {
         sumIfWritten();
         ifWrittenTellsOfPagesLaidAnew();
+        ifWrittenTellsOfTheOtherWords();
+        ifWrittenWithAnotherRoom();
         ifWrittenErrors();
         sumIfRoom();
         loosestPage();
@@ -38,6 +40,39 @@ public final class ForecastsTest {
         check.due("ifWritten(0, 3, 0, 900): slot 3 and one beside", x.ifWritten(0, 3, 0, 900), 34);
         check.due("write(0, 3, 0, 900)", x.write(0, 3, 0, 900), 4);
         check.due("count(1)", x.count(1), 34);
+    }
+
+    private static void ifWrittenTellsOfTheOtherWords() {
+        SqueezedLines x = Make.withPages(1);
+        for (int line = 0; line < 4; line++) {
+            x.fill(0, line, 9);
+        }
+        check.due("count(1): slot 1", x.count(1), 9);
+        x.fill(0, 7, 0);
+        check.due("ifWritten(0, 0, 0, 9): the same words", x.ifWritten(0, 0, 0, 9), 9);
+        check.due("ifWritten(0, 0, 0, 10): near", x.ifWritten(0, 0, 0, 10), 17);
+        check.due("ifWritten(0, 7, 0, 9): near", x.ifWritten(0, 7, 0, 9), 17);
+        check.due("ifWritten(0, 0, 0, 9): the words of line 0 again", x.ifWritten(0, 0, 0, 9), 9);
+    }
+
+    private static void ifWrittenWithAnotherRoom() {
+        SqueezedLines x = Make.withPages(2);
+        x.setRoom(0);
+        check.due("ifWritten(0, 0, 0, 1) with room 0", x.ifWritten(0, 0, 0, 1), 26);
+        check.due("write(0, 0, 0, 1)", x.write(0, 0, 0, 1), 2);
+        check.due("count(1)", x.count(1), 26);
+        x.setRoom(4);
+        Make.rawLines(x, 1, 0, 2);
+        check.due("ifWritten(1, 3, 0, 1000) with room 4", x.ifWritten(1, 3, 0, 1000), 25 + 33);
+        check.due("write(1, 3, 0, 1000)", x.write(1, 3, 0, 1000), 4);
+        check.due("ifWritten(1, 4, 0, 1000) with room 4", x.ifWritten(1, 4, 0, 1000), 25 + 65);
+        x.setRoom(8);
+        x.layAnew(1);
+        x.write(1, 4, 0, 1000);
+        x.setRoom(6);
+        check.due("ifWritten(1, 5, 0, 9) with room 6", x.ifWritten(1, 5, 0, 9), 25 + 49);
+        x.write(1, 5, 0, 9);
+        check.due("ifWritten(1, 6, 0, 9) with room 6: slot 3 and five beside", x.ifWritten(1, 6, 0, 9), 25 + 65);
     }
 
     private static void ifWrittenErrors() {
@@ -95,6 +130,15 @@ public final class ForecastsTest {
         check.due("loosest() without this page", x.loosest(), -6);
         x.fill(2, 0, 7);
         check.due("loosest(): slot 1 instead of one line beside wins nothing", x.loosest(), -6);
+        Make.sameLines(x, 0, 0, 1);
+        check.due("loosest(): page 0", x.loosest(), 0);
+        SqueezedLines y = Make.withPages(1);
+        Make.rawLines(y, 0, 0, 3);
+        check.due("loosest(): four raw lines with room 3", y.loosest(), -6);
+        y.setRoom(4);
+        check.due("loosest(): four raw lines with room 4", y.loosest(), 0);
+        Make.rawLines(y, 0, 4, 4);
+        check.due("loosest(): five raw lines with room 4", y.loosest(), -6);
     }
 
     private static void rawPages() {

@@ -10,6 +10,7 @@ public final class PagesTest {
         freeEmptiesItsHintOnly();
         layingAnew();
         layingAllAnew();
+        layingAnewWithAnotherRoom();
         bestSlots();
         pagesAreUndone();
         check.end();
@@ -141,6 +142,25 @@ public final class PagesTest {
         check.due("count(1) after undo", x.count(1), 99);
         check.due("layAllAnew() again", x.layAllAnew(), 80);
         check.due("layAllAnew(): nothing to win", x.layAllAnew(), 0);
+    }
+
+    /** Two raw lines: with room 0 or 1 the best slot is 8, with more it is 0. */
+    private static void layingAnewWithAnotherRoom() {
+        SqueezedLines x = Make.withPages(1);
+        Make.rawLines(x, 0, 0, 1);
+        x.setRoom(1);
+        x.layAnew(0);
+        check.due("page(0, 0) with room 1", x.page(0, 0), 8);
+        check.due("layAllAnew() with room 1", x.layAllAnew(), 0);
+        x.setRoom(2);
+        check.due("layAnew(0) with room 2", x.layAnew(0), 8);
+        check.due("page(0, 0) with room 2", x.page(0, 0), 0);
+        x = Make.withPages(1);
+        x.setRoom(8);
+        Make.rawLines(x, 0, 0, 4);
+        check.due("layAnew(0) with room 8", x.layAnew(0), 0);
+        check.due("layAllAnew() with room 8", x.layAllAnew(), 0);
+        check.due("page(0, 1)", x.page(0, 1), 41);
     }
 
     /** The same lines with each room: 1 same, 1 near, 2 small, 2 raw, 2 zero. */

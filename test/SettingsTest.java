@@ -9,6 +9,7 @@ public final class SettingsTest {
         lowerRoomLaysAnew();
         roomWithinBound();
         roomAboveBoundThatDoesNotGrow();
+        roomKeepsPagesThatFit();
         roomIsUndone();
         boundRange();
         boundBelowSum();
@@ -104,6 +105,21 @@ public final class SettingsTest {
         check.due("setRoom(3): the sum becomes less", x.setRoom(3), 8);
         check.due("count(1): still above the bound", x.count(1), 27);
         check.due("count(8)", x.count(8), 3);
+    }
+
+    /** Page 0 would be less if it was laid anew, but it fits; page 1 does not fit and becomes greater. */
+    private static void roomKeepsPagesThatFit() {
+        SqueezedLines x = Make.withPages(3);
+        Make.sameLines(x, 0, 0, 1);
+        Make.rawLines(x, 1, 0, 2);
+        check.due("count(1)", x.count(1), 17 + 25 + 1);
+        x.setBound(82);
+        check.due("setRoom(2) would be 17 + 65 + 1", x.setRoom(2), -4);
+        check.due("count(3) after LIMIT", x.count(3), 3);
+        x.setBound(83);
+        check.due("setRoom(2) at the bound", x.setRoom(2), 3);
+        check.due("page(0, 0)", x.page(0, 0), 0);
+        check.due("count(1)", x.count(1), 83);
     }
 
     private static void roomIsUndone() {

@@ -196,12 +196,14 @@ public final class UndoTest {
         x.look(2, 1, 0);
         x.look(1, 1, 0);
         x.look(1, 2, 0);
-        x.free(0);
+        x.newPage();
+        x.free(2);
+        x.fill(0, 7, 5);
         long hash = 432;
         for (int what = 0; what < 9; what++) {
             hash = 31 * hash + x.count(what);
         }
-        for (int page = 1; page < 3; page++) {
+        for (int page : new int[] {0, 1, 3}) {
             hash = 31 * hash + page;
             for (int what = 0; what < 5; what++) {
                 hash = 31 * hash + x.page(page, what);
